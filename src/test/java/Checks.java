@@ -1,5 +1,10 @@
+import java.util.function.IntSupplier;
+
 /** Compares answers with those that are due, and counts the wrong ones. */
 final class Checks {
+    /** A refusal told as an answer; no call answers less than -1. */
+    static final int RANGE = -1001, STATE = -1002, NUMBER = -1003;
+
     private static int wrong = 0;
     private static int made = 0;
 
@@ -26,7 +31,7 @@ final class Checks {
         refused(call, IndexOutOfBoundsException.class, made);
     }
 
-    private static void refused(String call, Class<?> want, Runnable run) {
+    static void refused(String call, Class<?> want, Runnable run) {
         made++;
         Class<?> got = null;
         try {
@@ -38,6 +43,17 @@ final class Checks {
         if (got != want) {
             wrong++;
             System.out.println(call + " threw " + got + ", due is " + want);
+        }
+    }
+
+    /** The call's answer, or which refusal it is; an exception that the document doesn't name is a number of its own. */
+    static int answerOf(IntSupplier call) {
+        try {
+            return call.getAsInt();
+        } catch (RuntimeException e) {
+            return !isOwn(e) ? -2001 : e.getClass() == IllegalArgumentException.class ? RANGE
+                : e.getClass() == IllegalStateException.class ? STATE
+                : e.getClass() == IndexOutOfBoundsException.class ? NUMBER : -2000;
         }
     }
 

@@ -1,11 +1,9 @@
+import java.util.function.IntSupplier;
+
 /** Runs of 512 calls by a fixed sequence of numbers, each answer against Roadstead's. */
 final class LongRunsTest {
     private static final int RUNS = 4000;
     private static final int CALLS = 512;
-
-    private interface Call {
-        int make();
-    }
 
     private long seed;
     private int run;
@@ -107,15 +105,8 @@ final class LongRunsTest {
         }
     }
 
-    private void same(int which, Roadstead y, Call call, int due) {
-        int got;
-        try {
-            got = call.make();
-        } catch (RuntimeException e) {
-            got = !Checks.isOwn(e) ? -2001 : e.getClass() == IllegalArgumentException.class ? Roadstead.RANGE
-                : e.getClass() == IllegalStateException.class ? Roadstead.STATE
-                : e.getClass() == IndexOutOfBoundsException.class ? Roadstead.NUMBER : -2000;
-        }
+    private void same(int which, Roadstead y, IntSupplier call, int due) {
+        int got = Checks.answerOf(call);
         seen[which]++;
         if (due < -1000) {
             refused[which]++;

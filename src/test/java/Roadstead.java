@@ -6,7 +6,7 @@ import java.util.Arrays;
  * A refusal is an answer here: one of the numbers RANGE, STATE and NUMBER.
  */
 final class Roadstead {
-    static final int RANGE = -1001, STATE = -1002, NUMBER = -1003;
+    static final int RANGE = Checks.RANGE, STATE = Checks.STATE, NUMBER = Checks.NUMBER;
 
     final int[] coal = new int[3];
     final int[] hold = new int[6], load = new int[6], dust = new int[6], at = new int[6];
